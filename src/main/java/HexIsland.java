@@ -173,7 +173,9 @@ public final class HexIsland {
             toGive = new int[MOST_PLAYERS];
             Arrays.fill(roads, NONE);
             Arrays.fill(buildings, NONE);
-            Arrays.fill(hands, BANK * GOODS, (BANK + 1) * GOODS, OF_EACH_GOOD);
+            for (int good = 0; good < GOODS; good++) {
+                hands[BANK * GOODS + good] = OF_EACH_GOOD;
+            }
         }
 
         void copyFrom(State other) {
@@ -411,7 +413,7 @@ public final class HexIsland {
         }
         remember();
         if (now.phase == FREE_ROADS) {
-            endFreeRoads();
+            now.phase = TURN;
         } else {
             endTurn();
             settleWin();
@@ -841,13 +843,8 @@ public final class HexIsland {
 
     private void endFreeRoadsIfStuck() {
         if (now.freeRoads == 0 || !hasPieceLeft(ROAD) || !anyRoadFits()) {
-            endFreeRoads();
+            now.phase = TURN;
         }
-    }
-
-    private void endFreeRoads() {
-        now.freeRoads = 0;
-        now.phase = TURN;
     }
 
     private boolean anyRoadFits() {

@@ -22,6 +22,8 @@ public final class BuildTest {
         awardComesAndGoes();
         awardOfTwoLongest();
         awardIsKeptInATie();
+        awardOfTheLaterPlayerIsKept();
+        chainBetweenOthers();
         pointsAdd();
         Checks.end();
     }
@@ -52,6 +54,7 @@ public final class BuildTest {
         Checks.untimely("phase 1: place(0, 0)", () -> x.place(ROAD, 0));
         Checks.untimely("phase 1: place(2, 0)", () -> x.place(TOWN, 0));
         x.place(HUT, 12);
+        Checks.due("no road: chain(0)", x.chain(0), 0);
         Checks.untimely("phase 2: place(1, 30)", () -> x.place(HUT, 30));
         Checks.untimely("phase 2: place(2, 12)", () -> x.place(TOWN, 12));
         Checks.misplaced("phase 2: place(0, 6)", () -> x.place(ROAD, 6));
@@ -362,6 +365,38 @@ public final class BuildTest {
         Checks.due("six against five: place(0, 58)", x.place(ROAD, 58), 4);
         Checks.due("six against five: award()", x.award(), 1);
         Checks.due("six against five: points(0)", x.points(0), 2);
+    }
+
+    private static void awardOfTheLaterPlayerIsKept() {
+        HexIsland x = Scenes.turns(Scenes.farmsOfTwo(), 6, 8, 6, 8, 6, 8, 6, 8);
+        x.roll(2);
+        x.pass();
+        x.roll(2);
+        Scenes.roads(x, 56, 42, 35, 57);
+        Checks.due("five: award()", x.award(), 1);
+        x.pass();
+        x.roll(2);
+        Scenes.roads(x, 27, 26);
+        Checks.due("five and four: place(0, 11)", x.place(ROAD, 11), 2);
+        Checks.due("five and five: chain(0)", x.chain(0), 5);
+        Checks.due("five and five: award()", x.award(), 1);
+        Checks.due("five and six: place(0, 6)", x.place(ROAD, 6), 4);
+        Checks.due("five and six: award()", x.award(), 0);
+    }
+
+    /** Both ends of the chain bear huts of the other player, one of which broke it off the rest. */
+    private static void chainBetweenOthers() {
+        HexIsland x = Scenes.turns(Scenes.farmsOfTwo(), 6, 6, 6, 6, 6, 6, 8, 8, 8, 8, 8, 8);
+        x.roll(2);
+        Scenes.roads(x, 27, 35, 43, 51, 58, 59);
+        Checks.due("a chain to another's hut: chain(0)", x.chain(0), 7);
+        x.pass();
+        x.roll(2);
+        Scenes.roads(x, 41, 34, 25, 26);
+        Checks.due("no longer one: chain(1)", x.chain(1), 5);
+        Checks.due("place(1, 23)", x.place(HUT, 23), 3);
+        Checks.due("between two huts: chain(0)", x.chain(0), 5);
+        Checks.due("between two huts: award()", x.award(), 0);
     }
 
     private static void pointsAdd() {

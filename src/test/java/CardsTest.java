@@ -231,12 +231,12 @@ public final class CardsTest {
         Checks.due("no road left: cards(0, 1)", x.cards(0, ROADS), 1);
     }
 
-    /** Player 1 has roads round both of player 0's; those edges are given. Player 0 has a ROADS card. */
-    private static HexIsland enclosed(int... edges) {
+    /** Player 1 has roads on the edges round both of player 0's; player 0 has a ROADS card. */
+    private static HexIsland enclosed(int firstRoad, int... edges) {
         HexIsland x = Scenes.island(3, 0, 6, 4, 1, 6, 0, 2, 8, 2, 3, 8, 1, 4, 8);
         x.deck(ROADS);
         x.players(2, 12);
-        Scenes.settle(x, 0, 0, 1, 2, 12, 11, 2, 5);
+        Scenes.settle(x, 0, firstRoad, 1, 2, 12, 11, 2, 5);
         Scenes.turns(x, 8);
         x.roll(6);
         x.offer(0, Scenes.bundle(0, 0, 0, 0, 1), 0);
@@ -254,17 +254,21 @@ public final class CardsTest {
     }
 
     private static void roadsEndWhenEnclosed() {
-        HexIsland x = enclosed(6, 1, 3, 4, 8, 15, 16, 9);
+        HexIsland x = enclosed(0, 6, 1, 3, 4, 8, 15, 16, 9);
         Checks.due("enclosed: play(1, 0, 0)", x.play(ROADS, 0, 0), 0);
         Scenes.dueStand("enclosed", x, 6, 0);
         Checks.due("enclosed: cards(0, 1)", x.cards(0, ROADS), 0);
         Checks.due("enclosed: pass()", x.pass(), 1);
-        HexIsland y = enclosed(6, 7, 3, 4, 8, 15, 16, 9);
+        HexIsland y = enclosed(0, 6, 7, 3, 4, 8, 15, 16, 9);
         y.play(ROADS, 0, 0);
         Scenes.dueStand("one way out", y, 7, 0);
         Scenes.dueLegal("one way out", y, 1);
         Checks.due("one way out: place(0, 1)", y.place(ROAD, 1), 2);
         Scenes.dueStand("the way ends", y, 6, 0);
+        HexIsland z = enclosed(1, 6, 7, 3, 4, 8, 15, 16, 9);
+        z.play(ROADS, 0, 0);
+        Scenes.dueStand("another way out", z, 7, 0);
+        Scenes.dueLegal("another way out", z, 0);
     }
 
     private static void goodsOutOfTheBank() {
@@ -306,5 +310,13 @@ public final class CardsTest {
         Scenes.dueHand("five wood", x, -1, 12, 12, 16, 14, 14);
         Scenes.dueStand("five wood", x, 6, 0);
         Checks.due("played: cards(0, 3)", x.cards(0, MONOPOLY), 0);
+        x.pass();
+        x.roll(2);
+        x.buy();
+        x.pass();
+        Scenes.turns(x, 2, 2);
+        x.roll(2);
+        Checks.due("player 1 takes wood: play(3, 0, 0)", x.play(MONOPOLY, 0, 0), 7);
+        Scenes.dueHand("player 1 takes wood", x, 1, 7, 2, 1, 2, 2);
     }
 }

@@ -21,6 +21,7 @@ public final class GoodsTest {
         blockTakes();
         blockRefuses();
         blockOfNobody();
+        blockOfPlayerZero();
         blockedHexBringsNone();
         bankPrices();
         bankPortsAtBothCorners();
@@ -260,6 +261,20 @@ public final class GoodsTest {
         Checks.due("a town: block(12, 1, 0)", y.block(12, 1, 0), WOOL);
     }
 
+    private static void blockOfPlayerZero() {
+        HexIsland x = Scenes.farmsOfTwo();
+        x.roll(2);
+        x.offer(1, Scenes.bundle(0, 0, 0, 1, 0), 0);
+        x.accept();
+        x.pass();
+        x.roll(7);
+        Checks.illegal("a victim with one good: block(0, -1, 0)", () -> x.block(0, -1, 0));
+        Checks.illegal("the player itself: block(8, 1, 0)", () -> x.block(8, 1, 0));
+        Checks.due("a victim with one good: block(0, 0, 6)", x.block(0, 0, 6), ORE);
+        Scenes.dueHand("a victim with one good", x, 0, 0, 0, 0, 0, 0);
+        Scenes.dueHand("a victim with one good", x, 1, 0, 0, 0, 2, 2);
+    }
+
     private static void blockedHexBringsNone() {
         HexIsland x = sevenRolled();
         x.block(8, 1, 0);
@@ -389,6 +404,11 @@ public final class GoodsTest {
         Checks.untimely("too much asked for: accept()", () -> x.accept());
         x.offer(1, ore, 0);
         Checks.due("a gift: accept()", x.accept(), 1);
+        x.undo();
+        x.offer(1, Scenes.bundle(0, 0, 0, 1, 0), 0);
+        Checks.due("another gift: accept()", x.accept(), 1);
+        x.offer(1, ore, 0);
+        x.accept();
         x.offer(1, 0, ore);
         Checks.due("a gift back: accept()", x.accept(), 1);
     }
@@ -403,7 +423,9 @@ public final class GoodsTest {
         Scenes.dueHand("taken", x, 1, 3, 3, 0, 0, 4);
         Scenes.dueHand("taken", x, -1, 15, 15, 15, 13, 13);
         Scenes.dueStand("taken", x, 6, 0);
-        Checks.untimely("gone: accept()", () -> x.accept());
+        x.offer(1, Scenes.bundle(0, 0, 1, 0, 0), 0);
+        x.accept();
+        Checks.untimely("gone, though there is more: accept()", () -> x.accept());
         HexIsland y = Scenes.turns(Scenes.farmsOfThree(), 8, 9, 9);
         y.roll(2);
         y.pass();

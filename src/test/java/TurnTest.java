@@ -273,7 +273,7 @@ public final class TurnTest {
         Checks.due("undo of an offer", x.undo(), 6);
         Checks.untimely("no offer: accept()", () -> x.accept());
         x.offer(1, 1, 0);
-        x.offer(1, 2, 0);
+        x.offer(1, 2, Scenes.bundle(0, 0, 0, 1, 0));
         x.undo();
         Checks.due("the offer before: accept()", x.accept(), 1);
         x.undo();
