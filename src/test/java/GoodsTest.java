@@ -338,8 +338,6 @@ public final class GoodsTest {
         x.pass();
         x.roll(2);
         Checks.due("greater corner of a port for clay: bank(1, 0)", x.bank(CLAY, WOOD), 2);
-        x.pass();
-        Scenes.turns(x, 2);
         HexIsland y = Scenes.sixes(ports(), 4);
         y.roll(6);
         y.bank(WOOD, ORE);

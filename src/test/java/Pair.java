@@ -20,7 +20,6 @@ final class Pair {
         return MOST_CALLS - calls;
     }
 
-    /** The last number that was answered; a throw leaves it alone. */
     private String compare(String call, String want, Answer answer) {
         calls++;
         String got;
