@@ -6,8 +6,14 @@ final class Checks {
 
     private static int wrong = 0;
     private static int made = 0;
+    private static String sentence = "";
 
     private Checks() {
+    }
+
+    /** The document's words that the checks from here on are about. */
+    static void sentence(String words) {
+        sentence = words;
     }
 
     static void due(String call, long got, long want) {
@@ -64,7 +70,7 @@ final class Checks {
     private static void tell(String text) {
         wrong++;
         if (wrong <= 40) {
-            System.out.println(text);
+            System.out.println(sentence.isEmpty() ? text : text + "  [" + sentence + "]");
         }
     }
 }

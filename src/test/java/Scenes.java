@@ -86,6 +86,28 @@ final class Scenes {
         return x;
     }
 
+    /** The player on turn gives player 0, or 1 for player 0, all goods but the hand. */
+    static HexIsland keep(HexIsland x, int... hand) {
+        int[] gift = new int[5];
+        for (int good = 0; good < 5; good++) {
+            gift[good] = x.goods(x.turn(), good) - hand[good];
+        }
+        x.offer(x.turn() == 0 ? 1 : 0, bundle(gift[0], gift[1], gift[2], gift[3], gift[4]), 0);
+        x.accept();
+        dueHand("with a hand", x, x.turn(), hand);
+        return x;
+    }
+
+    static HexIsland passed(HexIsland x) {
+        x.pass();
+        return x;
+    }
+
+    static HexIsland rolled(HexIsland x, int number) {
+        x.roll(number);
+        return x;
+    }
+
     /** For each good four bits. */
     static int bundle(int wood, int clay, int wool, int corn, int ore) {
         return wood | clay << 4 | wool << 8 | corn << 12 | ore << 16;

@@ -1,8 +1,10 @@
-/** Promises 15 to 19: pass, undo, phase, turn and winner. */
+/** Promises 15 to 19: pass, undo, phase, turn and winner; what they refuse by phase is in RefusalTest. */
 public final class TurnTest {
     private static final int ROAD = Scenes.ROAD;
     private static final int HUT = Scenes.HUT;
     private static final int TOWN = Scenes.TOWN;
+    private static final String WON = "When the player whose turn it is (in phases 3 .. 7) has the target of points or more,"
+        + " after any call, that one has WON and it is OVER";
 
     private interface Scene {
         HexIsland make();
@@ -13,44 +15,73 @@ public final class TurnTest {
     }
 
     public static void main(String[] args) {
+        phasesFirstToLast();
+        turnsAndWinners();
         passGoesRound();
-        passRefuses();
+        passEndsFreeRoads();
         wonByATown();
+        wonByAHut();
         wonByACard();
         wonByTheAward();
+        wonByMoreThanTheTarget();
         wonByAFreeRoad();
         wonAtTheTurnsBegin();
+        notWonByAnother();
         overRefuses();
         undoOfEachCall();
+        undoOfTheLatestAlone();
         undoRefuses();
         undoTakesBackWhatIsHidden();
         thrownCallsChangeNothing();
         Checks.end();
     }
 
-    private static void passGoesRound() {
-        HexIsland x = Scenes.farmsOfThree();
-        for (int k = 1; k <= 7; k++) {
-            x.roll(2);
-            Checks.due("pass()", x.pass(), k % 3);
-            Scenes.dueStand("pass()", x, 3, k % 3);
+    private static void phasesFirstToLast() {
+        Checks.sentence("phase(): The phase");
+        for (int phase = 0; phase <= 8; phase++) {
+            Checks.due("a scene of phase " + phase + ": phase()", Phases.make(phase).phase(), phase);
         }
     }
 
-    private static void passRefuses() {
-        HexIsland x = Scenes.farms();
-        Checks.untimely("phase 0: pass()", () -> x.pass());
-        x.players(2, 12);
-        Checks.untimely("phase 1: pass()", () -> x.pass());
-        x.place(HUT, 12);
-        Checks.untimely("phase 2: pass()", () -> x.pass());
-        HexIsland y = Scenes.farmsOfTwo();
-        Checks.untimely("phase 3: pass()", () -> y.pass());
-        y.roll(7);
-        Checks.untimely("phase 5: pass()", () -> y.pass());
+    private static void turnsAndWinners() {
+        int[] turns = {-1, 1, 1, 0, 0, 0, 0, 0, 0};
+        for (int phase = 0; phase <= 8; phase++) {
+            Checks.sentence("turn(): The player on turn (in the set-up the one that sets); NONE in LAYOUT");
+            Checks.due("a scene of phase " + phase + ": turn()", Phases.make(phase).turn(), turns[phase]);
+            Checks.sentence("winner(): Who has won; NONE for nobody");
+            Checks.due("a scene of phase " + phase + ": winner()", Phases.make(phase).winner(), phase == 8 ? 0 : -1);
+        }
+    }
+
+    private static void passGoesRound() {
+        Checks.sentence("Phase 7 ends, or the turn does: whose turn it is");
+        int[] spots = {0, 0, 1, 2, 2, 4, 51, 66, 52, 68, 53, 70, 21, 33, 26, 38};
+        for (int n = 2; n <= 4; n++) {
+            HexIsland x = new HexIsland();
+            x.players(n, 12);
+            for (int k = 0; k < 4 * n; k++) {
+                x.place(k % 2 == 0 ? HUT : ROAD, spots[k]);
+            }
+            for (int k = 1; k <= 3 * n; k++) {
+                x.roll(2);
+                Checks.due(n + " players: pass()", x.pass(), k % n);
+                Scenes.dueStand(n + " players: pass()", x, 3, k % n);
+            }
+        }
+    }
+
+    private static void passEndsFreeRoads() {
+        Checks.sentence("Phase 7 ends, or the turn does: whose turn it is");
+        HexIsland x = Phases.make(Phases.FREE_ROADS);
+        Checks.due("phase 7: pass()", x.pass(), 0);
+        Scenes.dueStand("phase 7: pass()", x, 6, 0);
+        Checks.due("the offer stands: accept()", x.accept(), 2);
+        Checks.due("phase 6: pass()", x.pass(), 1);
+        Scenes.dueStand("phase 6: pass()", x, 3, 1);
     }
 
     private static void wonByATown() {
+        Checks.sentence(WON);
         HexIsland x = Scenes.sixes(Scenes.farmsOfTwo(3, 0), 2);
         x.roll(2);
         Checks.due("two points: winner()", x.winner(), -1);
@@ -62,7 +93,18 @@ public final class TurnTest {
         Checks.due("undone: points(0)", x.points(0), 2);
     }
 
+    private static void wonByAHut() {
+        Checks.sentence(WON);
+        HexIsland x = Scenes.rolled(Scenes.sixes(Scenes.farmsOfTwo(3, 0), 2), 6);
+        x.place(ROAD, 26);
+        Checks.due("two of three: phase()", x.phase(), 6);
+        Checks.due("three points: place(1, 23)", x.place(HUT, 23), 3);
+        Scenes.dueStand("three points", x, 8, 0);
+        Checks.due("three points: winner()", x.winner(), 0);
+    }
+
     private static void wonByACard() {
+        Checks.sentence(WON);
         HexIsland x = Scenes.turns(Scenes.farmsOfTwo(4, 0454), 8, 8, 8);
         x.roll(8);
         x.buy();
@@ -74,6 +116,7 @@ public final class TurnTest {
     }
 
     private static void wonByTheAward() {
+        Checks.sentence(WON);
         HexIsland x = Scenes.sixes(Scenes.farmsOfTwo(4, 0), 2);
         x.roll(6);
         Scenes.roads(x, 27, 26);
@@ -83,7 +126,18 @@ public final class TurnTest {
         Checks.due("chain of five: phase()", x.phase(), 8);
     }
 
+    private static void wonByMoreThanTheTarget() {
+        Checks.sentence("has the target of points or more");
+        HexIsland x = Scenes.rolled(Scenes.sixes(Scenes.farmsOfTwo(3, 0), 2), 6);
+        Scenes.roads(x, 27, 26);
+        Checks.due("two of three: winner()", x.winner(), -1);
+        Checks.due("four of three: place(0, 11)", x.place(ROAD, 11), 4);
+        Scenes.dueStand("four of three", x, 8, 0);
+        Checks.due("four of three: winner()", x.winner(), 0);
+    }
+
     private static void wonByAFreeRoad() {
+        Checks.sentence(WON);
         HexIsland x = Scenes.sixes(Scenes.farmsOfTwo(4, 01), 2);
         x.roll(6);
         x.buy();
@@ -99,8 +153,8 @@ public final class TurnTest {
         Scenes.dueStand("another free road", x, 8, 0);
     }
 
-    /** Player 1 takes the award from player 0 for player 2, who has then five points, but not the turn. */
-    private static void wonAtTheTurnsBegin() {
+    /** Player 1 has taken the award from player 0 for player 2, who has then five points, but not the turn. */
+    private static HexIsland anotherHasTheTarget() {
         HexIsland x = Scenes.farms();
         x.players(3, 5);
         Scenes.settle(x, 12, 19, 34, 50, 25, 31, 2, 5, 41, 60, 24, 28);
@@ -120,18 +174,35 @@ public final class TurnTest {
         Scenes.turns(x, 2);
         x.roll(2);
         Checks.due("place(1, 23)", x.place(HUT, 23), 3);
-        Checks.due("for another one: award()", x.award(), 2);
-        Checks.due("for another one: points(2)", x.points(2), 5);
-        Scenes.dueStand("for another one", x, 6, 1);
-        Checks.due("for another one: winner()", x.winner(), -1);
+        return x;
+    }
+
+    private static void wonAtTheTurnsBegin() {
+        Checks.sentence(WON);
+        HexIsland x = anotherHasTheTarget();
         Checks.due("that one's turn: pass()", x.pass(), 2);
         Scenes.dueStand("that one's turn", x, 8, 2);
         Checks.due("that one's turn: winner()", x.winner(), 2);
         Checks.due("undo()", x.undo(), 6);
         Scenes.dueStand("undone", x, 6, 1);
+        Checks.due("undone: winner()", x.winner(), -1);
+    }
+
+    private static void notWonByAnother() {
+        Checks.sentence("When the player whose turn it is has the target of points or more");
+        HexIsland x = anotherHasTheTarget();
+        Checks.due("for another one: award()", x.award(), 2);
+        Checks.due("for another one: points(2)", x.points(2), 5);
+        Scenes.dueStand("for another one", x, 6, 1);
+        Checks.due("for another one: winner()", x.winner(), -1);
+        x.undo();
+        Checks.due("not for another one: points(2)", x.points(2), 3);
+        Checks.due("that one's turn: pass()", x.pass(), 2);
+        Scenes.dueStand("that one's turn", x, 3, 2);
     }
 
     private static void overRefuses() {
+        Checks.sentence("that one has WON and it is OVER");
         HexIsland x = Scenes.sixes(Scenes.farmsOfTwo(3, 0), 6);
         x.roll(6);
         x.offer(1, 1, 0);
@@ -155,49 +226,26 @@ public final class TurnTest {
         Checks.due("over: forecast(0, 0, 1)", x.forecast(0, 0, 1), 10);
     }
 
-    /** All that can be asked, in one text; some 240 calls. */
-    private static String told(HexIsland x) {
-        StringBuilder text = new StringBuilder();
-        text.append(x.phase()).append(' ').append(x.turn()).append(' ').append(x.winner()).append(' ').append(x.award());
-        for (int player = -1; player < 2; player++) {
-            text.append("\nplayer ").append(player);
-            for (int k = 0; k < 5; k++) {
-                text.append(' ').append(x.goods(player, k));
-                if (player >= 0) {
-                    text.append('/').append(x.cards(player, k)).append('/').append(x.forecast(player, k, 1));
-                }
-            }
-            if (player >= 0) {
-                text.append(' ').append(x.points(player)).append(' ').append(x.chain(player));
-            }
-        }
-        for (int spot = 0; spot < 72; spot++) {
-            text.append(' ').append(x.owner(0, spot));
-            text.append('/').append(spot < 54 ? x.owner(1, spot) : 0);
-        }
-        for (int i = 0; i < 60; i++) {
-            text.append(' ').append(x.legal(i));
-        }
-        return text.toString();
-    }
-
-    /** One object goes the step and takes it back, another one never goes it: they must stand alike. */
+    /** Objects that went the step and took it back, once or before going it anew, must stand as others that did not. */
     private static void dueUndone(String step, Scene scene, Step go) {
         HexIsland without = scene.make();
         int phase = without.phase();
-        String due = told(without);
         HexIsland with = scene.make();
         go.go(with);
         Checks.due("undo of " + step, with.undo(), phase);
         Checks.untimely("undo again of " + step, () -> with.undo());
-        Checks.due("undone " + step, told(with), due);
-        go.go(with);
-        HexIsland other = scene.make();
-        go.go(other);
-        Checks.due("done again " + step, told(with).equals(told(other)) ? 1 : 0, 1);
+        Checks.due("undone " + step, Look.at(with), Look.at(without));
+        HexIsland again = scene.make();
+        go.go(again);
+        again.undo();
+        go.go(again);
+        HexIsland once = scene.make();
+        go.go(once);
+        Checks.due("done again " + step, Look.at(again), Look.at(once));
     }
 
     private static void undoOfEachCall() {
+        Checks.sentence("The latest of the calls from place on above that did not throw is taken back, all being as before it: the phase then");
         Scene begun = () -> {
             HexIsland x = Scenes.farms();
             x.players(2, 12);
@@ -244,7 +292,26 @@ public final class TurnTest {
         return x;
     }
 
+    private static void undoOfTheLatestAlone() {
+        Checks.sentence("The latest of the calls from place on above that did not throw is taken back");
+        HexIsland x = Scenes.farmsOfTwo();
+        x.roll(6);
+        x.buy();
+        Look.at(x);
+        Checks.untimely("a call that throws: roll(6)", () -> x.roll(6));
+        Checks.illegal("a call that throws: place(3, 0)", () -> x.place(3, 0));
+        Checks.due("the card, not what was asked or thrown: undo()", x.undo(), 6);
+        Scenes.dueHand("the card", x, 0, 1, 1, 1, 2, 2);
+        Checks.untimely("not the roll, too: undo()", () -> x.undo());
+        Scenes.dueHand("not the roll, too", x, 0, 1, 1, 1, 2, 2);
+        x.pass();
+        Checks.due("a later call: undo()", x.undo(), 6);
+        Scenes.dueStand("a later call", x, 6, 0);
+        Checks.untimely("not twice: undo()", () -> x.undo());
+    }
+
     private static void undoRefuses() {
+        Checks.sentence("undo: IllegalStateException when there is none, or it was taken back already");
         HexIsland x = Scenes.farms();
         Checks.untimely("new: undo()", () -> x.undo());
         x.players(2, 12);
@@ -267,6 +334,7 @@ public final class TurnTest {
 
     /** What no call tells: the offer, what must be given, what was bought or played now, how many roads are free. */
     private static void undoTakesBackWhatIsHidden() {
+        Checks.sentence("all being as before it");
         HexIsland x = Scenes.sixes(Scenes.farmsOfTwo(12, 0333), 6);
         x.roll(6);
         x.offer(1, 1, 0);
@@ -323,6 +391,7 @@ public final class TurnTest {
     }
 
     private static void thrownCallsChangeNothing() {
+        Checks.sentence("A call that throws changes nothing");
         HexIsland x = Scenes.sixes(Scenes.farmsOfTwo(12, 0333), 2);
         HexIsland y = Scenes.sixes(Scenes.farmsOfTwo(12, 0333), 2);
         x.roll(6);
@@ -336,7 +405,7 @@ public final class TurnTest {
         Checks.untimely("block(0, -1, 0)", () -> x.block(0, -1, 0));
         Checks.untimely("give(0, 0)", () -> x.give(0, 0));
         Checks.untimely("roll(6)", () -> x.roll(6));
-        Checks.due("nothing has changed", told(x), told(y));
+        Checks.due("nothing has changed", Look.at(x), Look.at(y));
         Checks.due("the roll is taken back: undo()", x.undo(), 3);
     }
 }
