@@ -29,6 +29,7 @@ public final class CardsTest {
         goodsOutOfTheBank();
         goodsFirstToLast();
         monopolyTakesAll();
+        monopolyOfFour();
         monopolyOfNothing();
         monopolyFirstToLast();
         Checks.end();
@@ -443,6 +444,27 @@ public final class CardsTest {
         x.roll(2);
         Checks.due("player 1 takes wood: play(3, 0, 0)", x.play(MONOPOLY, 0, 0), 7);
         Scenes.dueHand("player 1 takes wood", x, 1, 7, 2, 1, 2, 2);
+    }
+
+    private static void monopolyOfFour() {
+        Checks.sentence("3 MONOPOLY: all other players give the player all that they have of good a");
+        HexIsland x = Scenes.farms();
+        x.deck(03);
+        x.players(4, 12);
+        Scenes.settle(x, 12, 19, 34, 50, 2, 5, 25, 31, 52, 68, 51, 66, 41, 60, 24, 28);
+        Scenes.turns(x, 6, 8, 9, 9);
+        x.roll(2);
+        x.buy();
+        x.pass();
+        Scenes.turns(x, 2, 2, 2);
+        x.roll(2);
+        Scenes.dueHand("the last of four", x, 3, 2, 2, 0, 0, 0);
+        Checks.due("three wood: play(3, 0, 0)", x.play(MONOPOLY, 0, 0), 3);
+        Scenes.dueHand("three wood", x, 0, 4, 1, 0, 1, 1);
+        Scenes.dueHand("three wood", x, 1, 0, 1, 1, 2, 2);
+        Scenes.dueHand("three wood", x, 2, 0, 0, 0, 0, 0);
+        Scenes.dueHand("three wood", x, 3, 0, 2, 0, 0, 0);
+        Scenes.dueHand("three wood", x, -1, 15, 15, 18, 16, 16);
     }
 
     private static void monopolyOfNothing() {

@@ -11,6 +11,7 @@ public final class ChainTest {
         chainThroughOwnHutAndTown();
         chainBrokenByAHutAndATown();
         chainBetweenOthers();
+        chainRoundToAnothersHut();
         awardFromFiveOn();
         awardGoesBelowFive();
         awardIsKeptInATie();
@@ -103,6 +104,22 @@ public final class ChainTest {
         Checks.due("no longer one: chain(1)", x.chain(1), 5);
         Checks.due("place(1, 23)", x.place(HUT, 23), 3);
         Checks.due("between two huts: chain(0)", x.chain(0), 5);
+    }
+
+    /** A ring round hex 0, with a hut of player 1 on one of its corners. */
+    private static void chainRoundToAnothersHut() {
+        Checks.sentence("never on through a corner that bears a hut or town of another player: it may begin and end there");
+        HexIsland x = Scenes.farms();
+        x.players(2, 12);
+        Scenes.settle(x, 12, 11, 4, 2, 34, 50, 24, 28);
+        Scenes.sixes(x, 6);
+        x.roll(2);
+        Scenes.roads(x, 12, 7, 6, 0);
+        Checks.due("five of the ring: chain(0)", x.chain(0), 5);
+        x.place(ROAD, 1);
+        Checks.due("the whole ring: chain(0)", x.chain(0), 6);
+        x.place(ROAD, 19);
+        Checks.due("the ring and a road off it: chain(0)", x.chain(0), 6);
     }
 
     private static void awardFromFiveOn() {

@@ -16,10 +16,12 @@ public final class RollTest {
         bankHasJustEnoughForSeveral();
         bankHasTooFewForSeveral();
         bankHasTooFewForSeveralOfOneGood();
+        bankHasTooFewForTwoOfMore();
         bankHasTooFewForOne();
         bankHasTooFewForATown();
         sevenBringsNothing();
         halfOfMoreThanSeven();
+        halfOfTheLastOfFour();
         sevenAndSevenGoods();
         giveHalf();
         giveOfTwo();
@@ -139,6 +141,23 @@ public final class RollTest {
         Scenes.dueHand("one wood for two", x, -1, 1, 8, 19, 19, 19);
     }
 
+    private static void bankHasTooFewForTwoOfMore() {
+        Checks.sentence("if just one player claims it, that one gets what there is, else nobody any");
+        int[] ofThree = {0, 0, 7, 10, 53, 71, 51, 66, 26, 38, 30, 36};
+        int[] ofFour = {0, 0, 7, 10, 53, 71, 51, 66, 26, 38, 30, 36, 21, 33, 2, 4};
+        for (int n = 3; n <= 4; n++) {
+            HexIsland x = Scenes.island(0, WOOD, 6);
+            x.players(n, 12);
+            Scenes.settle(x, n == 3 ? ofThree : ofFour);
+            Scenes.sixes(x, 9);
+            Scenes.dueHand("one wood left", x, -1, 1, 19, 19, 19, 19);
+            Checks.due("one wood for two of " + n + ": roll(6)", x.roll(6), 0);
+            Scenes.dueHand("one wood for two of " + n, x, 0, 9, 0, 0, 0, 0);
+            Scenes.dueHand("one wood for two of " + n, x, 1, 9, 0, 0, 0, 0);
+            Scenes.dueHand("one wood for two of " + n, x, 2, 0, 0, 0, 0, 0);
+        }
+    }
+
     private static void bankHasTooFewForOne() {
         Checks.sentence("otherwise, if just one player claims it, that one gets what there is");
         HexIsland x = Scenes.island(0, WOOD, 6, 1, WOOD, 6);
@@ -200,6 +219,29 @@ public final class RollTest {
                 Checks.due("half of " + hands[k][0] + " wood and more: give(0, 4)", x.give(0, ORE), halves[k] - 1);
             }
         }
+    }
+
+    private static void halfOfTheLastOfFour() {
+        Checks.sentence("each player with more than 7 goods then must give half of them (rounded down) to the bank");
+        HexIsland x = Scenes.island(0, WOOD, 6, 1, WOOD, 6);
+        x.players(4, 12);
+        Scenes.settle(x, 53, 71, 51, 66, 26, 38, 4, 1, 30, 36, 21, 33, 38, 54, 12, 19);
+        Scenes.dueHand("player 0's second hut", x, 0, 1, 0, 0, 0, 0);
+        Scenes.sixes(x, 4);
+        Scenes.dueHand("player 3", x, 3, 8, 0, 0, 0, 0);
+        Scenes.dueHand("player 0", x, 0, 5, 0, 0, 0, 0);
+        x.roll(7);
+        Scenes.dueStand("player 3 must give", x, 4, 0);
+        for (int player : new int[] {-1, 0, 1, 2, 4}) {
+            Checks.illegal("give(" + player + ", 0)", () -> x.give(player, WOOD));
+        }
+        for (int left = 3; left >= 0; left--) {
+            Scenes.dueStand("player 3 must give", x, 4, 0);
+            Checks.due("give(3, 0)", x.give(3, WOOD), left);
+        }
+        Scenes.dueStand("player 3 has given", x, 5, 0);
+        Scenes.dueHand("player 3 has given", x, 3, 4, 0, 0, 0, 0);
+        Scenes.dueHand("player 3 has given", x, -1, 10, 19, 19, 19, 19);
     }
 
     private static void sevenAndSevenGoods() {
