@@ -11,6 +11,7 @@ public final class GeometryTest {
     }
 
     private static void shoreEdgesTakePorts() {
+        Checks.sentence("a SHORE edge is one whose two corners are beside just one common hex");
         int shores = 0;
         for (int e = 0; e < 72; e++) {
             int edge = e;
@@ -26,6 +27,7 @@ public final class GeometryTest {
     }
 
     private static void firstRoadsLieAtTheirHut() {
+        Checks.sentence("Edges 0 .. 71 are numbered by the less of their corners, then by the other one; an edge is AT its corners");
         for (int corner = 0; corner < 54; corner++) {
             HexIsland x = new HexIsland();
             x.players(2, 3);
@@ -42,6 +44,7 @@ public final class GeometryTest {
     }
 
     private static void neighboursKeepHutsAway() {
+        Checks.sentence("An EDGE is between two corners that are NEIGHBOURS");
         for (int corner = 0; corner < 54; corner++) {
             HexIsland x = new HexIsland();
             x.players(2, 3);
@@ -68,6 +71,7 @@ public final class GeometryTest {
     }
 
     private static void hutsLieBesideTheirHexes() {
+        Checks.sentence("A corner is BESIDE a hex of whose corners it is one");
         for (int h = 0; h < 19; h++) {
             for (int corner = 0; corner < 54; corner++) {
                 HexIsland x = new HexIsland();
