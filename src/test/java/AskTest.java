@@ -255,7 +255,8 @@ public final class AskTest {
     }
 
     private static void forecastTells() {
-        Checks.sentence("The mean of all that a player gets of a good in so many rolls together, times 36 to the power of rolls");
+        Checks.sentence("The mean of all that a player gets of a good in so many rolls together, times 36 to the power"
+            + " of rolls");
         HexIsland x = Scenes.farmsOfTwo();
         Checks.due("forecast(0, 0, 1)", x.forecast(0, 0, 1), 5);
         Checks.due("forecast(0, 0, 2)", x.forecast(0, 0, 2), 360);
@@ -293,7 +294,8 @@ public final class AskTest {
     }
 
     private static void forecastIgnoresWhatIsThere() {
-        Checks.sentence("forecast: when hands, blocked hex and buildings stay, 7 brings nothing and the bank never lacks any");
+        Checks.sentence("forecast: when hands, blocked hex and buildings stay, 7 brings nothing and the bank never"
+            + " lacks any");
         HexIsland x = Scenes.sixes(Scenes.farmsOfTwo(), 20);
         Checks.due("the bank is empty: goods(-1, 0)", x.goods(-1, WOOD), 0);
         Checks.due("the bank is empty: forecast(0, 0, 1)", x.forecast(0, WOOD, 1), 5);
@@ -321,7 +323,8 @@ public final class AskTest {
     }
 
     private static void forecastRefuses() {
-        Checks.sentence("forecast: IndexOutOfBoundsException when there is no such player or good; IllegalArgumentException when rolls is not 1 .. 3");
+        Checks.sentence("forecast: IndexOutOfBoundsException when there is no such player or good;"
+            + " IllegalArgumentException when rolls is not 1 .. 3");
         HexIsland x = Scenes.farmsOfTwo();
         int[][] none = {{-1, 0, 1}, {2, 0, 1}, {0, -1, 1}, {0, 5, 1}, {-1, 0, 0}, {0, 5, 4}};
         for (int[] w : none) {

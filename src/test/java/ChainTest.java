@@ -123,7 +123,8 @@ public final class ChainTest {
     }
 
     private static void awardFromFiveOn() {
-        Checks.sentence("when no chain is 5 or more, nobody has the award; otherwise the player whose chain is longer than all others gets it");
+        Checks.sentence("when no chain is 5 or more, nobody has the award; otherwise the player whose chain is longer"
+            + " than all others gets it");
         HexIsland x = Scenes.turns(Scenes.farmsOfTwo(), 6, 6, 6, 8);
         x.roll(2);
         Scenes.roads(x, 27, 26);

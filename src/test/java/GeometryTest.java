@@ -27,7 +27,8 @@ public final class GeometryTest {
     }
 
     private static void firstRoadsLieAtTheirHut() {
-        Checks.sentence("Edges 0 .. 71 are numbered by the less of their corners, then by the other one; an edge is AT its corners");
+        Checks.sentence("Edges 0 .. 71 are numbered by the less of their corners, then by the other one; an edge is AT"
+            + " its corners");
         for (int corner = 0; corner < 54; corner++) {
             HexIsland x = new HexIsland();
             x.players(2, 3);

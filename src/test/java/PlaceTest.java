@@ -63,7 +63,8 @@ public final class PlaceTest {
     }
 
     private static void setUpHutsNeedNoRoad() {
-        Checks.sentence("A hut on a free corner with no hut or town on any neighbour, and a road of the player at it (but in the set-up)");
+        Checks.sentence("A hut on a free corner with no hut or town on any neighbour, and a road of the player at it"
+            + " (but in the set-up)");
         HexIsland x = Scenes.farms();
         x.players(2, 3);
         Checks.due("phase 1: place(1, 12)", x.place(HUT, 12), 1);

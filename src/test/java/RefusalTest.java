@@ -168,7 +168,8 @@ public final class RefusalTest {
         hut.misplaced("place(1, 7), a hut on a neighbour", x -> x.place(1, 7));
         hut.misplaced("place(1, 8), a hut on a neighbour", x -> x.place(1, 8));
         hut.misplaced("place(1, 17), a hut on a neighbour", x -> x.place(1, 17));
-        Checks.sentence("place: UnsupportedOperationException (in phase 2: it is not at the hut that was just set, or not free)");
+        Checks.sentence("place: UnsupportedOperationException (in phase 2: it is not at the hut that was just set, or"
+            + " not free)");
         IN[Phases.FIRST_ROAD].misplaced("place(0, 19), not free", x -> x.place(0, 19));
         IN[Phases.FIRST_ROAD].misplaced("place(0, 25), at a road alone", x -> x.place(0, 25));
         IN[Phases.FIRST_ROAD].misplaced("place(0, 11), at another's hut", x -> x.place(0, 11));
@@ -519,7 +520,8 @@ public final class RefusalTest {
         int[] noGoods = {-1, 5, LEAST, MOST};
         inAllBut((in, phase) -> {
             for (int player : noPlayers) {
-                Checks.sentence("goods, cards, points, chain, forecast: IndexOutOfBoundsException when there is no such player");
+                Checks.sentence("goods, cards, points, chain, forecast: IndexOutOfBoundsException when there is no such"
+                    + " player");
                 in.outside("goods(" + player + ", 0)", x -> x.goods(player, 0));
                 in.outside("cards(" + player + ", 0)", x -> x.cards(player, 0));
                 in.outside("points(" + player + ")", x -> x.points(player));

@@ -192,7 +192,8 @@ public final class RollTest {
     }
 
     private static void sevenBringsNothing() {
-        Checks.sentence("A 7: each player with more than 7 goods then must give half of them to the bank, in GIVING; then, or if none must, comes BLOCKING");
+        Checks.sentence("A 7: each player with more than 7 goods then must give half of them to the bank, in GIVING;"
+            + " then, or if none must, comes BLOCKING");
         HexIsland x = Scenes.farmsOfTwo();
         Checks.due("few goods: roll(7)", x.roll(7), 0);
         Scenes.dueStand("few goods: roll(7)", x, 5, 0);
@@ -303,7 +304,8 @@ public final class RollTest {
     }
 
     private static void giveRefuses() {
-        Checks.sentence("give: IllegalArgumentException when there is no such player or good, the player must give none, or has none of it");
+        Checks.sentence("give: IllegalArgumentException when there is no such player or good, the player must give"
+            + " none, or has none of it");
         HexIsland x = Scenes.turns(Scenes.farmsOfTwo(), 6, 6);
         Checks.untimely("phase 3: give(0, 0)", () -> x.give(0, WOOD));
         Checks.untimely("phase 3: give(7, 7)", () -> x.give(7, 7));
@@ -365,7 +367,8 @@ public final class RollTest {
     }
 
     private static void blockRefuses() {
-        Checks.sentence("block: IllegalArgumentException when index is below 0, or victim is not such a player; or victim is NONE and there is such a one");
+        Checks.sentence("block: IllegalArgumentException when index is below 0, or victim is not such a player; or"
+            + " victim is NONE and there is such a one");
         HexIsland x = sevenRolled();
         int[][] wrong = {{-1, -1, 0}, {19, -1, 0}, {1, -1, 0}, {8, 1, -1}, {8, 1, LEAST}, {0, -1, -1}, {8, -1, 0},
             {8, 0, 0}, {0, 0, 0}, {8, 2, 0}, {8, -2, 0}, {0, 1, 0}, {10, 1, 0}, {MOST, 1, 0}, {8, MOST, 0}};

@@ -31,7 +31,7 @@ public final class TradeTest {
         Checks.end();
     }
 
-    /** Player 0 has a hut on the corner, beside hex 0 alone, which bears a good; a port may be on edge 0, of the corners 0 and 3. */
+    /** Player 0 has a hut on the corner, which is beside hex 0, the only one that bears a good; the port is on edge 0. */
     private static HexIsland atAPort(int corner, int road, int kind, int good, int goods) {
         HexIsland x = Scenes.island(0, good, 6);
         if (kind != NO_PORT) {
@@ -111,7 +111,8 @@ public final class TradeTest {
     }
 
     private static void portsOfTwoKinds() {
-        Checks.sentence("bank: which is 4, or 3 with a hut or town at a corner of a port's edge of kind 5, or 2 of that good's");
+        Checks.sentence("bank: which is 4, or 3 with a hut or town at a corner of a port's edge of kind 5, or 2 of that"
+            + " good's");
         HexIsland x = ports();
         x.roll(6);
         Scenes.dueHand("ports", x, 0, 3, 2, 0, 0, 0);
@@ -194,7 +195,8 @@ public final class TradeTest {
     }
 
     private static void offerRefuses() {
-        Checks.sentence("offer: IllegalArgumentException when there is no such player, it is the one on turn, or a number has more than 20 bits (is below 0, too), or both are 0");
+        Checks.sentence("offer: IllegalArgumentException when there is no such player, it is the one on turn, or a"
+            + " number has more than 20 bits (is below 0, too), or both are 0");
         HexIsland x = Scenes.farmsOfTwo();
         int wood = Scenes.bundle(1, 0, 0, 0, 0);
         int ore = Scenes.bundle(0, 0, 0, 0, 1);

@@ -245,7 +245,8 @@ public final class TurnTest {
     }
 
     private static void undoOfEachCall() {
-        Checks.sentence("The latest of the calls from place on above that did not throw is taken back, all being as before it: the phase then");
+        Checks.sentence("The latest of the calls from place on above that did not throw is taken back, all being as"
+            + " before it: the phase then");
         Scene begun = () -> {
             HexIsland x = Scenes.farms();
             x.players(2, 12);
