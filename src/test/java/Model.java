@@ -24,16 +24,17 @@ final class Model {
     };
     private static final int[] ROWS = {3, 4, 5, 4, 3};
 
+    /** The line and the place of each corner. */
+    static final List<int[]> CORNERS = new ArrayList<>();
     static final List<Set<Integer>> HEXES = new ArrayList<>();
     static final List<int[]> EDGES = new ArrayList<>();
 
     static {
-        List<int[]> corners = new ArrayList<>();
         Map<String, Integer> numbers = new HashMap<>();
         for (int line = 0; line < LINES.length; line++) {
             for (int place : LINES[line]) {
-                numbers.put(line + "/" + place, corners.size());
-                corners.add(new int[] {line, place});
+                numbers.put(line + "/" + place, CORNERS.size());
+                CORNERS.add(new int[] {line, place});
             }
         }
         for (int r = 0; r < ROWS.length; r++) {
@@ -49,9 +50,9 @@ final class Model {
                 HEXES.add(hex);
             }
         }
-        for (int a = 0; a < corners.size(); a++) {
-            for (int b = a + 1; b < corners.size(); b++) {
-                if (areNeighbours(corners.get(a), corners.get(b))) {
+        for (int a = 0; a < CORNERS.size(); a++) {
+            for (int b = a + 1; b < CORNERS.size(); b++) {
+                if (areNeighbours(CORNERS.get(a), CORNERS.get(b))) {
                     EDGES.add(new int[] {a, b});
                 }
             }
